@@ -342,7 +342,7 @@ public final class BayMoorings {
                 moved++;
             }
         }
-        bay.berths.clear();
+        // RINGS only pass round the BUOYS that have BOATS, so each old place is overwritten.
         for (int n = 0; n < bay.boatCount; n++) {
             bay.berths.put(n, rings.buoyFor(n));
             bay.boats[n].wishCount = 0;
@@ -609,12 +609,19 @@ public final class BayMoorings {
         abstract int kindNumber();
 
         /** What it adds to the chain's part of OUT. */
-        abstract int reach();
+        int reach() {
+            return length;
+        }
 
         /** The least water in which it FITS. */
-        abstract int need();
+        int need() {
+            return draught;
+        }
 
-        abstract int fee(int rate);
+        /** Its DUES, wherever it lies. */
+        int fee(int rate) {
+            return plainFee(rate);
+        }
 
         final boolean isOf(int kind) {
             return kind == KIND_BOAT || kind == kindNumber();
@@ -657,18 +664,6 @@ public final class BayMoorings {
         int kindNumber() {
             return KIND_BOAT;
         }
-
-        int reach() {
-            return length;
-        }
-
-        int need() {
-            return draught;
-        }
-
-        int fee(int rate) {
-            return plainFee(rate);
-        }
     }
 
     private static final class Twin extends Boat {
@@ -682,10 +677,6 @@ public final class BayMoorings {
 
         int reach() {
             return length + length / 2;
-        }
-
-        int need() {
-            return draught;
         }
 
         int fee(int rate) {
@@ -703,16 +694,8 @@ public final class BayMoorings {
             return KIND_DRY;
         }
 
-        int reach() {
-            return length;
-        }
-
         int need() {
             return draught / 2;
-        }
-
-        int fee(int rate) {
-            return plainFee(rate);
         }
     }
 
@@ -747,11 +730,6 @@ public final class BayMoorings {
                 boatOfBuoy[buoy] = NOBODY;
                 buoyOfBoat[boat] = NOWHERE;
             }
-        }
-
-        void clear() {
-            Arrays.fill(buoyOfBoat, NOWHERE);
-            Arrays.fill(boatOfBuoy, NOBODY);
         }
 
         void copyFrom(Berths other) {

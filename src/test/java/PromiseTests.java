@@ -329,6 +329,7 @@ public final class PromiseTests {
             due("same wind " + wind, touchApart(19, 0, 1 << wind), 0);
             due("same wind " + wind, touchApart(20, 0, 1 << wind), -1);
         }
+        touchByEachWind();
         touchByDifferentOuts();
         touchByHours();
         BayMoorings x = corners();
@@ -339,6 +340,22 @@ public final class PromiseTests {
         due("the same boat", x.touch(1, 0, 1, 1), BEYOND);
         due("the same buoy", x.touch(0, 1, 1, 1), BEYOND);
         due("where they lie doesn't matter", x.touch(2, 3, 3, 0), -1);
+    }
+
+    /** OUTS of 10 and 90 (7 and 63 along both), with BUOYS so far apart that one WIND brings the far ends together. */
+    private static void touchByEachWind() {
+        int[][] away = {{0, 80}, {-56, 56}, {-80, 0}, {-56, -56}, {0, -80}, {56, -56}, {80, 0}, {56, 56}};
+        for (int at = 0; at < 8; at++) {
+            BayMoorings x = new BayMoorings();
+            x.buoy(500, 500, 90, 90);
+            x.buoy(500 + away[at][0], 500 + away[at][1], 90, 90);
+            x.boat(0, 10, 0);
+            x.boat(0, 90, 0);
+            for (int wind = 0; wind < 8; wind++) {
+                x.winds(1 << wind);
+                due("by wind " + wind + " at " + at, x.touch(0, 0, 1, 1), wind == at ? 0 : -1);
+            }
+        }
     }
 
     private static void touchByDifferentOuts() {
@@ -927,6 +944,7 @@ public final class PromiseTests {
         due("the third is wrong", checked(x, 1, 0, 2, 3), 3);
         due("the last is wrong", checked(x, 1, 0, -1, -1), 4);
         due("one more than boats", checked(x, 1, 0, -1, 3, -1), 5);
+        due("one more than boats", checked(x, 1, 0, -1, 3, 0), 5);
         due("fewer than boats", checked(x, 1, 0), 0);
         due("no numbers", x.check(), 0);
         due("the first of two", checked(x, 1, 1, -1, 4), 2);

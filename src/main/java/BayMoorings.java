@@ -726,7 +726,7 @@ public final class BayMoorings {
 
         void lift(int boat) {
             int buoy = buoyOf(boat);
-            if (buoy != NOWHERE) {
+            if (within(boat, 0, MOST_BOATS - 1) && within(buoy, 0, MOST_BUOYS - 1)) {
                 boatOfBuoy[buoy] = NOBODY;
                 buoyOfBoat[boat] = NOWHERE;
             }
@@ -1142,7 +1142,11 @@ public final class BayMoorings {
         }
 
         private boolean isLeft(int boat) {
-            return (left >> boat & 1) != 0;
+            return within(boat, 0, MOST_BOATS - 1) && (left >> boat & 1) != 0;
+        }
+
+        private int pointedAtBy(int boat) {
+            return within(boat, 0, MOST_BOATS - 1) ? pointsAt[boat] : NOBODY;
         }
 
         private void pointAll() {
@@ -1157,9 +1161,8 @@ public final class BayMoorings {
         private int holderOfWish(Boat boat) {
             for (int i = 0; i < boat.wishCount; i++) {
                 Buoy wish = bay.buoyAt(boat.wishAt(i));
-                int holder = wish == null ? NOBODY : bay.berths.boatOf(wish.number);
-                if (holder != NOBODY && isLeft(holder) && bay.suits(boat, wish)) {
-                    return holder;
+                if (wish != null && isLeft(bay.berths.boatOf(wish.number)) && bay.suits(boat, wish)) {
+                    return bay.berths.boatOf(wish.number);
                 }
             }
             return boat.number;
@@ -1175,16 +1178,16 @@ public final class BayMoorings {
         }
 
         private boolean comesRound(int start) {
-            int at = pointsAt[start];
+            int at = pointedAtBy(start);
             for (int step = 0; step < MOST_BOATS && at != start; step++) {
-                at = pointsAt[at];
+                at = pointedAtBy(at);
             }
             return at == start;
         }
 
         private void takeRing(int start) {
             int at = start;
-            for (int step = 0; step < MOST_BOATS && at != NOBODY && isLeft(at); step++) {
+            for (int step = 0; step < MOST_BOATS && isLeft(at); step++) {
                 left &= ~(1 << at);
                 gets[at] = bay.berths.buoyOf(pointsAt[at]);
                 at = pointsAt[at];

@@ -674,6 +674,32 @@ public final class TermsTests extends DocTest {
         x.moor(2, 0);
         due("only 2 is far enough from it", x.most(3, 0), 1);
         due("only 2 is far enough from it", x.most(3, 1), 2);
+        BayMoorings y = new BayMoorings();
+        y.buoy(500, 500, 10, 10);
+        y.buoy(519, 500, 20, 10);
+        y.boat(0, 10, 20);
+        y.boat(0, 10, 10);
+        due("a first at BUOY 1 bars BUOY 0", y.most(3, 0), 1);
+        due("the first", y.most(3, 1), 1);
+        due("the second", y.most(3, 2), -1);
+        mostTouchesByLengths();
+    }
+
+    /** Of two long ones at BUOYS 0 and 1 each bars the other, a short one bars none; it alone suits BUOY 2. */
+    private static void mostTouchesByLengths() {
+        BayMoorings x = new BayMoorings();
+        x.buoy(0, 0, 100, 100);
+        x.buoy(60, 0, 100, 100);
+        x.buoy(900, 0, 100, 10);
+        x.boat(0, 10, 0);
+        x.boat(0, 100, 0);
+        x.boat(0, 100, 0);
+        x.winds(1);
+        due("a short one and a long one", x.most(7, 0), 2);
+        int[] want = {0, 1, -1};
+        for (int i = 0; i < 3; i++) {
+            due("of three, " + i, x.most(7, 1 + i), want[i]);
+        }
     }
 
     /** BUOY 0 suits BOAT 0 alone, but bars BUOY 1, which alone is deep enough for BOAT 1. */
@@ -688,6 +714,14 @@ public final class TermsTests extends DocTest {
         due("both get one", x.most(3, 0), 2);
         due("the first gives way", x.most(3, 1), 2);
         due("for the second", x.most(3, 2), 1);
+        BayMoorings y = new BayMoorings();
+        y.buoy(0, 0, 20, 10);
+        y.buoy(500, 0, 10, 10);
+        y.boat(0, 10, 10);
+        y.boat(0, 10, 20);
+        due("both get one", y.most(3, 0), 2);
+        due("the first leaves BUOY 0", y.most(3, 1), 1);
+        due("to the second", y.most(3, 2), 0);
     }
 
     private static void mostGivesTheFirstTheLeast() {
@@ -1024,6 +1058,15 @@ public final class TermsTests extends DocTest {
                 due("ring of " + size + ", boat " + n, x.ring(n), n < size ? (n + 1) % size : n);
             }
         }
+        BayMoorings y = row(12);
+        addBoats(y, 16);
+        for (int n = 4; n < 16; n++) {
+            y.moor(n, n - 4);
+        }
+        y.rather(4, 11);
+        y.rather(15, 0);
+        due("the last boat", y.ring(15), 0);
+        due("with the first that lies", y.ring(4), 11);
     }
 
     /** BOAT 0 waits for a BUOY that two rings before it leave or don't leave: 1 with 2, then 3 alone, then 0. */

@@ -345,8 +345,8 @@ public final class BayMoorings {
         // RINGS only pass round the BUOYS that have BOATS, so each old place is overwritten.
         for (int n = 0; n < bay.boatCount; n++) {
             bay.berths.put(n, rings.buoyFor(n));
-            bay.boats[n].wishCount = 0;
         }
+        bay.dropWishes();
         return moved;
     }
 
@@ -428,8 +428,9 @@ public final class BayMoorings {
     public int dues() {
         int sum = 0;
         for (int n = 0; n < bay.boatCount; n++) {
-            if (bay.berths.buoyOf(n) != NOWHERE) {
-                sum += bay.boats[n].fee(rateNow);
+            Boat it = bay.boatAt(n);
+            if (it != null && bay.berths.buoyOf(n) != NOWHERE) {
+                sum += it.fee(rateNow);
             }
         }
         return sum;
@@ -740,8 +741,9 @@ public final class BayMoorings {
 
     /** The BUOYS, BOATS, TIDES and WINDS, and what follows from them alone. */
     private static final class Bay {
-        final Buoy[] buoys = new Buoy[MOST_BUOYS];
-        final Boat[] boats = new Boat[MOST_BOATS];
+        // Asked for by buoyAt and boatAt alone, which look at the number; they answer null for none.
+        private final Buoy[] buoys = new Buoy[MOST_BUOYS];
+        private final Boat[] boats = new Boat[MOST_BOATS];
         final int[] tides = new int[HOURS];
         // An HOUR with the TIDE of an earlier one can tell nothing new about touching.
         private final boolean[] repeated = new boolean[HOURS];
@@ -804,7 +806,10 @@ public final class BayMoorings {
             }
             tides[hour] = v;
             for (int n = 0; n < buoyCount; n++) {
-                buoys[n].flood(hour, v);
+                Buoy buoy = buoyAt(n);
+                if (buoy != null) {
+                    buoy.flood(hour, v);
+                }
             }
             leastTide = tides[0];
             for (int h = 0; h < HOURS; h++) {
@@ -832,8 +837,9 @@ public final class BayMoorings {
                 return false;
             }
             for (int n = 0; n < boatCount; n++) {
-                Buoy there = n == boat.number ? null : buoyAt(lying.buoyOf(n));
-                if (there != null && firstTouch(boat, buoy, boats[n], there) != NEVER) {
+                Boat other = n == boat.number ? null : boatAt(n);
+                Buoy there = buoyAt(lying.buoyOf(n));
+                if (other != null && there != null && firstTouch(boat, buoy, other, there) != NEVER) {
                     return false;
                 }
             }
@@ -910,17 +916,31 @@ public final class BayMoorings {
             return lying;
         }
 
+        /** Nobody tells any BUOY any more. */
+        void dropWishes() {
+            for (int n = 0; n < boatCount; n++) {
+                Boat boat = boatAt(n);
+                if (boat != null) {
+                    boat.wishCount = 0;
+                }
+            }
+        }
+
         void passYear() {
             for (int n = 0; n < buoyCount; n++) {
+                Buoy buoy = buoyAt(n);
                 Boat boat = boatAt(berths.boatOf(n));
-                buoys[n].wear(boat != null && boat.length >= LONG_BOAT);
+                if (buoy != null) {
+                    buoy.wear(boat != null && boat.length >= LONG_BOAT);
+                }
             }
         }
 
         int partedChains() {
             int parted = 0;
             for (int n = 0; n < buoyCount; n++) {
-                if (buoys[n].isParted()) {
+                Buoy buoy = buoyAt(n);
+                if (buoy != null && buoy.isParted()) {
                     parted++;
                 }
             }
@@ -929,13 +949,14 @@ public final class BayMoorings {
 
         /** THE NEXT LOOK, or NOWHERE if there are no BUOYS. */
         int leastKnown() {
-            int best = NOWHERE;
+            Buoy best = null;
             for (int n = 0; n < buoyCount; n++) {
-                if (best == NOWHERE || isLessKnown(buoys[n], buoys[best])) {
-                    best = n;
+                Buoy buoy = buoyAt(n);
+                if (buoy != null && (best == null || isLessKnown(buoy, best))) {
+                    best = buoy;
                 }
             }
-            return best;
+            return best == null ? NOWHERE : best.number;
         }
 
         private static boolean isLessKnown(Buoy one, Buoy other) {
@@ -1019,9 +1040,10 @@ public final class BayMoorings {
         void run(int boats) {
             size = 0;
             for (int n = 0; n < bay.boatCount; n++) {
-                if ((boats >> n & 1) != 0 && size < MOST_ASKED) {
-                    asked[size] = bay.boats[n];
-                    open[size] = openAtFirst(bay.boats[n]);
+                Boat boat = (boats >> n & 1) != 0 ? bay.boatAt(n) : null;
+                if (boat != null && size < MOST_ASKED) {
+                    asked[size] = boat;
+                    open[size] = openAtFirst(boat);
                     size++;
                 }
             }
@@ -1037,7 +1059,8 @@ public final class BayMoorings {
         private int openAtFirst(Boat boat) {
             int bits = 0;
             for (int b = 0; b < bay.buoyCount; b++) {
-                if (bay.mayLie(boat, bay.buoys[b], bay.berths)) {
+                Buoy buoy = bay.buoyAt(b);
+                if (buoy != null && bay.mayLie(boat, buoy, bay.berths)) {
                     bits |= 1 << b;
                 }
             }
@@ -1099,10 +1122,17 @@ public final class BayMoorings {
             if (barred[slot] != UNKNOWN) {
                 return barred[slot];
             }
+            Boat mine = asked[one];
+            Boat its = asked[other];
+            Buoy here = bay.buoyAt(buoy);
+            if (mine == null || its == null || here == null) {
+                return 0;
+            }
             int bits = 1 << buoy;
             for (int b = 0; b < bay.buoyCount; b++) {
                 boolean hopedFor = b != buoy && (open[other] >> b & 1) != 0;
-                if (hopedFor && bay.firstTouch(asked[one], bay.buoys[buoy], asked[other], bay.buoys[b]) != NEVER) {
+                Buoy there = hopedFor ? bay.buoyAt(b) : null;
+                if (there != null && bay.firstTouch(mine, here, its, there) != NEVER) {
                     bits |= 1 << b;
                 }
             }
@@ -1151,8 +1181,9 @@ public final class BayMoorings {
 
         private void pointAll() {
             for (int n = 0; n < bay.boatCount; n++) {
-                if (isLeft(n)) {
-                    pointsAt[n] = holderOfWish(bay.boats[n]);
+                Boat boat = isLeft(n) ? bay.boatAt(n) : null;
+                if (boat != null) {
+                    pointsAt[n] = holderOfWish(boat);
                 }
             }
         }
@@ -1209,10 +1240,11 @@ public final class BayMoorings {
             berths.copyFrom(bay.berths);
             fleeing = 0;
             for (int n = 0; n < bay.boatCount; n++) {
+                Boat boat = bay.boatAt(n);
                 Buoy own = bay.buoyAt(berths.buoyOf(n));
-                if (own != null && !own.holds(bay.boats[n], force)) {
+                if (boat != null && own != null && !own.holds(boat, force)) {
                     fleeing++;
-                    int refuge = refugeOf(bay.boats[n], force);
+                    int refuge = refugeOf(boat, force);
                     berths.lift(n);
                     berths.put(n, refuge);
                 }
@@ -1221,8 +1253,8 @@ public final class BayMoorings {
 
         private int refugeOf(Boat boat, int force) {
             for (int b = 0; b < bay.buoyCount; b++) {
-                Buoy buoy = bay.buoys[b];
-                if (buoy.holds(boat, force) && bay.mayLie(boat, buoy, berths)) {
+                Buoy buoy = bay.buoyAt(b);
+                if (buoy != null && buoy.holds(boat, force) && bay.mayLie(boat, buoy, berths)) {
                     return b;
                 }
             }

@@ -103,6 +103,9 @@ public final class RulesTests {
             complain(!imports.group(1).equals("java.util.Arrays"), "the source imports " + imports.group(1));
         }
         complain(source.chars().anyMatch(c -> c > 126), "the source has signs beyond 126");
+        // Rule 7: a reference is looked at before it is used, and what an array of objects holds may be null.
+        complain(Pattern.compile("\\]\\s*\\.").matcher(code).find(), "an element is used without a look at it");
+        complain(Pattern.compile("\\.(buoys|boats)\\[").matcher(code).find(), "an element is taken past buoyAt or boatAt");
     }
 
     /** Every method with arguments of every sort, on objects in many states and long after their 512th call. */
